@@ -29,7 +29,7 @@ public final class OracleTest {
         Random random = new Random(seed);
         BassRealiser x = new BassRealiser();
         Model model = new Model();
-        Caller caller = new Caller(random, model);
+        Caller caller = new Caller(random, model, seed % 2 == 0 ? Caller.ROUGH : Caller.GENTLE);
         StringBuilder story = new StringBuilder();
         for (int n = 0; n < CALLS; n++) {
             caller.choose();
@@ -49,15 +49,19 @@ public final class OracleTest {
         private static final String[] NAMES = {
             "key", "chord", "less", "figure", "plain", "range", "home", "leap", "given", "bass", "worked",
             "voicings", "voicing", "solve", "note", "many", "sing", "fault", "sung", "count"};
-        private static final int[] WEIGHTS = {2, 10, 2, 12, 3, 3, 3, 3, 3, 2, 8, 4, 8, 8, 10, 6, 12, 12, 4, 3};
+        /** How often each name is chosen; gentle runs have more pieces that can be realised and sung. */
+        static final int[] ROUGH = {2, 10, 2, 12, 3, 3, 3, 3, 3, 2, 8, 4, 8, 8, 10, 6, 12, 12, 4, 3};
+        static final int[] GENTLE = {1, 8, 1, 5, 4, 0, 1, 1, 1, 1, 1, 1, 1, 8, 8, 6, 30, 20, 12, 1};
+        private final int[] weights;
         private final Random random;
         private final Model model;
         private int which;
         private int p, q, r, s;
 
-        Caller(Random random, Model model) {
+        Caller(Random random, Model model, int[] weights) {
             this.random = random;
             this.model = model;
+            this.weights = weights;
         }
 
         private int from(int least, int most) {
@@ -74,19 +78,19 @@ public final class OracleTest {
 
         void choose() {
             int total = 0;
-            for (int weight : WEIGHTS) {
+            for (int weight : weights) {
                 total += weight;
             }
             int at = random.nextInt(total);
             which = 0;
-            while (at >= WEIGHTS[which]) {
-                at -= WEIGHTS[which++];
+            while (at >= weights[which]) {
+                at -= weights[which++];
             }
             p = q = r = s = 0;
             switch (NAMES[which]) {
                 case "key": p = from(-7, 7); break;
-                case "chord": p = from(0, 6); q = from(1, random.nextInt(4) == 0 ? 5 : 3);
-                    r = random.nextInt(3) == 0 ? from(-1, 1) : 0; break;
+                case "chord": p = from(0, 6); q = from(1, random.nextInt(4) == 0 && weights == ROUGH ? 5 : 3);
+                    r = random.nextInt(3) == 0 && weights == ROUGH ? from(-1, 1) : 0; break;
                 case "figure": p = chordNumber(); q = from(2, 9); r = random.nextBoolean() ? 0 : from(0, 3); break;
                 case "range": p = from(0, 2); q = from(40, 72); r = q + from(-1, 25);
                     if (random.nextInt(12) == 0) { q = from(0, 127); r = from(0, 127); } break;
@@ -127,7 +131,12 @@ public final class OracleTest {
             q = best ? model.note(p, 0) : model.voicing(p, k, 0);
             r = best ? model.note(p, 1) : model.voicing(p, k, 1);
             s = best ? model.note(p, 2) : model.voicing(p, k, 2);
-            int off = random.nextInt(12);
+            if (random.nextInt(4) == 0) {
+                q = model.fitting(p, 0, random);
+                r = model.fitting(p, 1, random);
+                s = model.fitting(p, 2, random);
+            }
+            int off = random.nextInt(24);
             int by = random.nextBoolean() ? 12 - 24 * random.nextInt(2) : random.nextInt(9) - 4;
             if (off == 0) { q += by; }
             if (off == 1) { r += by; }
@@ -457,6 +466,17 @@ public final class OracleTest {
                 }
             }
             return found;
+        }
+
+        /** Some pitch that keeps rules 1 and 2; there must be one. */
+        int fitting(int i, int v, Random random) {
+            TreeSet<Integer> fit = classes(bars.get(i), -1);
+            fit.add(mod12(bassOf(bars.get(i))));
+            int pitch = low[v] + random.nextInt(high[v] - low[v] + 1);
+            while (!fit.contains(mod12(pitch))) {
+                pitch = pitch == high[v] ? low[v] : pitch + 1;
+            }
+            return pitch;
         }
 
         int voicings(int i) {

@@ -4,7 +4,7 @@
  * moves least. What is sung by hand is judged by the same rules.
  *
  * <p>This class looks at the arguments and keeps the chords in their order; the classes inside it
- * know figures and tones (Chord), the rules (Rules) and the search for realisings (Search).
+ * know figures and tones (Chord), the rules (Rules, Move) and the search for realisings (Search).
  */
 public final class BassRealiser {
     public static final int BAD = -1, NONE = -2, FULL = -3;
@@ -31,18 +31,19 @@ public final class BassRealiser {
     private static final int[] SHARPS = {3, 0, 4, 1, 5, 2, 6};
     private static final int[] FLATS = {6, 2, 5, 1, 4, 0, 3};
 
+    private final Search search;
+    /** What is told, the search's own. */
     private final Chord[] chords;
     private final Rules rules;
-    private final Search search;
+    /** The way that is sung from the chord before. */
+    private final Move move;
     private int size;
 
     public BassRealiser() {
-        chords = new Chord[MOST_CHORDS];
-        for (int i = 0; i < MOST_CHORDS; i++) {
-            chords[i] = new Chord();
-        }
-        rules = new Rules();
-        search = new Search(chords, rules);
+        search = new Search();
+        chords = search.chords;
+        rules = search.rules;
+        move = new Move();
         size = 0;
     }
 
@@ -236,7 +237,7 @@ public final class BassRealiser {
             if (now == NOTHING || faultAt(i) != 0) {
                 return NONE;
             }
-            cost += i == 0 ? rules.farFromHome(now) : farApart(chords[i - 1].handmade, now);
+            cost += i == 0 ? rules.farFromHome(now) : moveTo(i).length();
         }
         return cost;
     }
@@ -271,11 +272,16 @@ public final class BassRealiser {
         if (i == 0) {
             return rules.ofStart(now, now.handmade);
         }
-        Chord before = chords[i - 1];
-        if (before.handmade == NOTHING) {
+        if (chords[i - 1].handmade == NOTHING) {
             return 0;
         }
-        return rules.ofMove(before, before.handmade, now, now.handmade);
+        return moveTo(i).rule(rules.leap);
+    }
+
+    private Move moveTo(int i) {
+        move.leave(chords[i - 1], chords[i - 1].handmade);
+        move.arrive(chords[i], chords[i].handmade);
+        return move;
     }
 
     private int figuresTold() {
@@ -333,17 +339,9 @@ public final class BassRealiser {
         return voicing >> 7 * (VOICES - 1 - voice) & HIGHEST_PITCH;
     }
 
-    private static int farApart(int from, int to) {
-        int far = 0;
-        for (int voice = 0; voice < VOICES; voice++) {
-            far += Math.abs(pitchOf(to, voice) - pitchOf(from, voice));
-        }
-        return far;
-    }
-
-    /** A set of one class; sets of classes are joined by |. */
+    /** A set of one class, of a pitch from 0; sets of classes are joined by |. */
     private static int classBit(int pitch) {
-        return 1 << Math.floorMod(pitch, OCTAVE);
+        return 1 << pitch % OCTAVE;
     }
 
     private static int keyAlter(int letter, int fifths) {
@@ -371,8 +369,9 @@ public final class BassRealiser {
         final int[] signs;
         final int[] fixed;
         int handmade;
-        /** Sets of classes, which hold for the key of the last tune. */
+        /** Sets of classes, which hold for the key of the last tune; the second has the bass's, too. */
         int toneClasses;
+        int classes;
         int suspended;
         int falling;
 
@@ -419,6 +418,7 @@ public final class BassRealiser {
                 suspended |= kind(f) == SUSPENDED ? tone : 0;
                 falling |= kind(f) == FALLING ? tone : 0;
             }
+            classes = toneClasses | classBit(bass);
         }
 
         static int complete(int told) {
@@ -497,11 +497,11 @@ public final class BassRealiser {
         }
 
         boolean takes(int pitch) {
-            return (classBit(pitch) & (toneClasses | classBit(bass))) != 0;
+            return (classBit(pitch) & classes) != 0;
         }
     }
 
-    /** The rules, with all that is told for the whole piece. */
+    /** What is told for the whole piece, and the rules for a voicing by itself. */
     private static final class Rules {
         final int[] low;
         final int[] high;
@@ -518,7 +518,11 @@ public final class BassRealiser {
         }
 
         int farFromHome(int voicing) {
-            return farApart(pack(homes[0], homes[1], homes[2]), voicing);
+            int far = 0;
+            for (int voice = 0; voice < VOICES; voice++) {
+                far += Math.abs(pitchOf(voicing, voice) - homes[voice]);
+            }
+            return far;
         }
 
         /** The first of rules 1 to 7 that is broken, or 0. */
@@ -529,11 +533,11 @@ public final class BassRealiser {
             if (outside(0, a) || outside(1, b) || outside(2, c)) {
                 return 1;
             }
-            if (!chord.takes(a) || !chord.takes(b) || !chord.takes(c)) {
+            int sounding = classBit(a) | classBit(b) | classBit(c);
+            if ((sounding & ~chord.classes) != 0) {
                 return 2;
             }
-            int sounding = classBit(a) | classBit(b) | classBit(c) | classBit(chord.bass);
-            if ((chord.toneClasses & ~sounding) != 0) {
+            if ((chord.toneClasses & ~(sounding | classBit(chord.bass))) != 0) {
                 return 3;
             }
             if (a < b || b < c || c < chord.bass) {
@@ -553,11 +557,11 @@ public final class BassRealiser {
         }
 
         private int leadingOnes(int bass, int a, int b, int c) {
-            int leading = classBit(FIFTH * fifths + 11);
-            int ones = classBit(bass) == leading ? 1 : 0;
-            ones += classBit(a) == leading ? 1 : 0;
-            ones += classBit(b) == leading ? 1 : 0;
-            ones += classBit(c) == leading ? 1 : 0;
+            int leading = Math.floorMod(FIFTH * fifths + 11, OCTAVE);
+            int ones = bass % OCTAVE == leading ? 1 : 0;
+            ones += a % OCTAVE == leading ? 1 : 0;
+            ones += b % OCTAVE == leading ? 1 : 0;
+            ones += c % OCTAVE == leading ? 1 : 0;
             return ones;
         }
 
@@ -580,45 +584,81 @@ public final class BassRealiser {
             }
             return 0;
         }
+    }
 
-        /** The first of rules 8 to 11 that is broken, or 0. */
-        int ofMove(Chord before, int from, Chord now, int to) {
-            if (leaps(from, to)) {
-                return 8;
-            }
-            if (hasParallels(before.bass, from, now.bass, to)) {
-                return 9;
-            }
-            if (now.suspended != 0 && unprepared(now, from, to)) {
-                return 10;
-            }
-            if ((before.suspended | before.falling) != 0 && unresolved(before, from, to)) {
-                return 11;
-            }
-            return 0;
+    /** The way from a voicing to one of the next chord; one object serves for all ways in turn. */
+    private static final class Move {
+        private static final int FOUR = VOICES + 1;
+
+        /** The voices and, last, the bass. */
+        private final int[] from;
+        private final int[] to;
+        private final int[] steps;
+        private int wasSuspended;
+        private int wasFalling;
+        private int isSuspended;
+
+        Move() {
+            from = new int[FOUR];
+            to = new int[FOUR];
+            steps = new int[FOUR];
         }
 
-        private boolean leaps(int from, int to) {
+        void leave(Chord chord, int voicing) {
             for (int voice = 0; voice < VOICES; voice++) {
-                if (Math.abs(pitchOf(to, voice) - pitchOf(from, voice)) > leap) {
+                from[voice] = pitchOf(voicing, voice);
+            }
+            from[VOICES] = chord.bass;
+            wasSuspended = chord.suspended;
+            wasFalling = chord.falling;
+        }
+
+        /** After leave, as often as there are voicings to go to. */
+        void arrive(Chord chord, int voicing) {
+            for (int voice = 0; voice < VOICES; voice++) {
+                to[voice] = pitchOf(voicing, voice);
+                steps[voice] = to[voice] - from[voice];
+            }
+            to[VOICES] = chord.bass;
+            steps[VOICES] = to[VOICES] - from[VOICES];
+            isSuspended = chord.suspended;
+        }
+
+        /** How far the voices move, together. */
+        int length() {
+            return Math.abs(steps[0]) + Math.abs(steps[1]) + Math.abs(steps[2]);
+        }
+
+        /** The first of rules 8 to 11 that is broken, or 0. */
+        int rule(int leap) {
+            if (leaps(leap)) {
+                return 8;
+            }
+            if (hasParallels()) {
+                return 9;
+            }
+            if (isSuspended != 0 && unprepared()) {
+                return 10;
+            }
+            return (wasSuspended | wasFalling) != 0 && unresolved() ? 11 : 0;
+        }
+
+        private boolean leaps(int leap) {
+            for (int voice = 0; voice < VOICES; voice++) {
+                if (Math.abs(steps[voice]) > leap) {
                     return true;
                 }
             }
             return false;
         }
 
-        private static boolean hasParallels(int bassFrom, int from, int bassTo, int to) {
+        private boolean hasParallels() {
             for (int upper = 0; upper < VOICES; upper++) {
-                int upperFrom = pitchOf(from, upper);
-                int upperTo = pitchOf(to, upper);
-                if (upperFrom == upperTo) {
+                if (steps[upper] == 0) {
                     continue;
                 }
-                if (parallel(upperFrom, bassFrom, upperTo, bassTo)) {
-                    return true;
-                }
-                for (int lower = upper + 1; lower < VOICES; lower++) {
-                    if (parallel(upperFrom, pitchOf(from, lower), upperTo, pitchOf(to, lower))) {
+                for (int lower = upper + 1; lower < FOUR; lower++) {
+                    if (steps[lower] != 0 && parallel(upper, lower)) {
                         return true;
                     }
                 }
@@ -626,36 +666,31 @@ public final class BassRealiser {
             return false;
         }
 
-        /** Of an upper one that moves. */
-        private static boolean parallel(int upperFrom, int lowerFrom, int upperTo, int lowerTo) {
-            if (lowerFrom == lowerTo) {
+        /** Two are as far apart as before, modulo 12, just if their steps are alike modulo 12. */
+        private boolean parallel(int upper, int lower) {
+            if ((steps[upper] - steps[lower]) % OCTAVE != 0) {
                 return false;
             }
-            int first = Math.floorMod(upperFrom - lowerFrom, OCTAVE);
-            if (first != 0 && first != FIFTH) {
-                return false;
-            }
-            return Math.floorMod(upperTo - lowerTo, OCTAVE) == first;
+            int apart = to[upper] - to[lower];
+            return apart % OCTAVE == 0 || (apart - FIFTH) % OCTAVE == 0;
         }
 
-        private static boolean unprepared(Chord now, int from, int to) {
+        private boolean unprepared() {
             for (int voice = 0; voice < VOICES; voice++) {
-                int pitch = pitchOf(to, voice);
-                if ((classBit(pitch) & now.suspended) != 0 && pitch != pitchOf(from, voice)) {
+                if (steps[voice] != 0 && (classBit(to[voice]) & isSuspended) != 0) {
                     return true;
                 }
             }
             return false;
         }
 
-        private static boolean unresolved(Chord before, int from, int to) {
+        private boolean unresolved() {
             for (int voice = 0; voice < VOICES; voice++) {
-                int was = pitchOf(from, voice);
-                int fall = was - pitchOf(to, voice);
-                if ((classBit(was) & before.suspended) != 0 && !within(fall, 1, 2)) {
+                int was = classBit(from[voice]);
+                if ((was & wasSuspended) != 0 && !within(steps[voice], -2, -1)) {
                     return true;
                 }
-                if ((classBit(was) & before.falling) != 0 && !within(fall, 0, 2)) {
+                if ((was & wasFalling) != 0 && !within(steps[voice], -2, 0)) {
                     return true;
                 }
             }
@@ -732,6 +767,7 @@ public final class BassRealiser {
         final Chord[] chords;
         final Rules rules;
         final Column[] columns;
+        final Move move;
         final int[] best;
         /** The first chord up to which there is no realising, or NOTHING. */
         int failed;
@@ -739,13 +775,15 @@ public final class BassRealiser {
         int ways;
         private boolean settled;
 
-        Search(Chord[] itsChords, Rules itsRules) {
-            chords = itsChords;
-            rules = itsRules;
+        Search() {
+            chords = new Chord[MOST_CHORDS];
+            rules = new Rules();
             columns = new Column[MOST_CHORDS];
             for (int i = 0; i < MOST_CHORDS; i++) {
+                chords[i] = new Chord();
                 columns[i] = new Column();
             }
+            move = new Move();
             best = new int[MOST_CHORDS];
             failed = NOTHING;
         }
@@ -783,7 +821,7 @@ public final class BassRealiser {
             cost = 0;
             failed = NOTHING;
             for (int i = 0; i < size; i++) {
-                reach(i);
+                reach(i, listed(i));
                 if (!columns[i].reachedAtAll()) {
                     failed = i;
                     return;
@@ -798,8 +836,7 @@ public final class BassRealiser {
             }
         }
 
-        private void reach(int i) {
-            Column column = listed(i);
+        private void reach(int i, Column column) {
             for (int k = 0; k < column.size; k++) {
                 int to = column.voicings[k];
                 column.reached[k] =
@@ -810,15 +847,16 @@ public final class BassRealiser {
         private boolean reachable(int i, int to) {
             Column before = columns[i - 1];
             for (int k = 0; k < before.size; k++) {
-                if (before.reached[k] && allows(i, before.voicings[k], to)) {
+                if (!before.reached[k]) {
+                    continue;
+                }
+                move.leave(chords[i - 1], before.voicings[k]);
+                move.arrive(chords[i], to);
+                if (move.rule(rules.leap) == 0) {
                     return true;
                 }
             }
             return false;
-        }
-
-        private boolean allows(int i, int from, int to) {
-            return rules.ofMove(chords[i - 1], from, chords[i], to) == 0;
         }
 
         private void weigh(int i, boolean last) {
@@ -834,15 +872,15 @@ public final class BassRealiser {
 
         private void weighOne(int i, int k) {
             Column next = columns[i + 1];
-            int from = columns[i].voicings[k];
+            move.leave(chords[i], columns[i].voicings[k]);
             int total = 0;
             int least = 0;
             for (int j = 0; j < next.size; j++) {
-                int to = next.voicings[j];
-                if (next.ways[j] == 0 || !allows(i + 1, from, to)) {
+                move.arrive(chords[i + 1], next.voicings[j]);
+                if (next.ways[j] == 0 || move.rule(rules.leap) != 0) {
                     continue;
                 }
-                int rest = farApart(from, to) + next.rest[j];
+                int rest = move.length() + next.rest[j];
                 least = total == 0 ? rest : Math.min(least, rest);
                 total = joined(total, next.ways[j]);
             }
@@ -873,17 +911,17 @@ public final class BassRealiser {
         /** Voicings stand in ORDER, so that the first with the least rest is THE BEST one's. */
         private void pickNext(int i) {
             Column column = columns[i];
-            int from = best[i - 1];
+            move.leave(chords[i - 1], best[i - 1]);
             int least = NOTHING;
             for (int k = 0; k < column.size; k++) {
-                int to = column.voicings[k];
-                if (column.ways[k] == 0 || !allows(i, from, to)) {
+                move.arrive(chords[i], column.voicings[k]);
+                if (column.ways[k] == 0 || move.rule(rules.leap) != 0) {
                     continue;
                 }
-                int rest = farApart(from, to) + column.rest[k];
+                int rest = move.length() + column.rest[k];
                 if (least == NOTHING || rest < least) {
                     least = rest;
-                    best[i] = to;
+                    best[i] = column.voicings[k];
                 }
             }
         }

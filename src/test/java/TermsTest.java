@@ -622,6 +622,13 @@ public final class TermsTest {
         // The ninth is D flat, which the bass has, C sharp.
         Checks.due("only the bass has it", Checks.fault(x, 0, 76, 67, 64), 0);
         Checks.due("a voice has it", Checks.fault(x, 0, 73, 67, 64), 10);
+        x = new BassRealiser();
+        x.chord(6, 2, 1);
+        x.figure(0, 9, 0);
+        // The ninth is C, which the bass has, B sharp: D and F are left for the voices.
+        Checks.due("only the bass has C", Checks.fault(x, 0, 74, 65, 62), 0);
+        Checks.due("a voice has C", Checks.fault(x, 0, 72, 65, 62), 10);
+        Checks.must(x.solve() >= 0, "solve() fails where only the bass has C");
     }
 
     /** A voice goes to one of C E G, from a pitch that was the tone of figure f, 4 or 7, by signs. */

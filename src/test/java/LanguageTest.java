@@ -5,8 +5,10 @@ import java.lang.reflect.Method;
 import java.lang.reflect.Modifier;
 import java.nio.file.Files;
 import java.nio.file.Path;
+import java.util.List;
 import java.util.Set;
 import java.util.TreeSet;
+import java.util.regex.Matcher;
 import java.util.regex.Pattern;
 
 /** The face of the class, and those rules of LANGUAGE.md that words and members tell. */
@@ -30,6 +32,7 @@ public final class LanguageTest {
         face();
         nestedClasses();
         words();
+        lines();
         System.out.println(wrong == 0 ? "language: all is kept" : "language: " + wrong + " faults");
         if (wrong != 0) {
             System.exit(1);
@@ -40,10 +43,7 @@ public final class LanguageTest {
         Class<?> type = BassRealiser.class;
         must(Modifier.isPublic(type.getModifiers()) && Modifier.isFinal(type.getModifiers()), "the class is public and final");
         Set<String> open = new TreeSet<>();
-        Set<String> names = new TreeSet<>();
-        for (String signature : FACE) {
-            names.add(signature.substring(0, signature.indexOf('/')));
-        }
+        Set<String> names = faceNames();
         for (Method m : type.getDeclaredMethods()) {
             if (Modifier.isPrivate(m.getModifiers())) {
                 must(!names.contains(m.getName()), "a private method is called " + m.getName());
@@ -64,6 +64,14 @@ public final class LanguageTest {
         must(constructors.length == 1 && constructors[0].getParameterCount() == 0, "one constructor");
     }
 
+    private static Set<String> faceNames() {
+        Set<String> names = new TreeSet<>();
+        for (String signature : FACE) {
+            names.add(signature.substring(0, signature.indexOf('/')));
+        }
+        return names;
+    }
+
     private static void nestedClasses() {
         Class<?>[] nested = BassRealiser.class.getDeclaredClasses();
         must(nested.length <= 11, "twelve classes at most");
@@ -75,6 +83,10 @@ public final class LanguageTest {
                 must(!Modifier.isStatic(f.getModifiers()) || Modifier.isFinal(f.getModifiers()), f + " is final");
             }
             must(fields <= 20, type + " has twenty fields at most");
+            for (Method m : type.getDeclaredMethods()) {
+                must(!faceNames().contains(m.getName()), m + " bears the name of a public method");
+                must(m.getParameterCount() <= 7, m + " has seven parameters at most");
+            }
         }
     }
 
@@ -84,5 +96,26 @@ public final class LanguageTest {
             String bounded = Character.isLetter(word.charAt(0)) && word.matches("\\w+") && !word.equals("Exact") ? "\\b" + word + "\\b" : word;
             must(!Pattern.compile(bounded).matcher(code).find(), "the code holds " + word);
         }
+    }
+
+    /** A method ends where a brace stands as far in as its head. */
+    private static void lines() throws IOException {
+        Pattern head = Pattern.compile("( +)(?! |if |for |while |switch )[\\w\\[\\] ]+\\([^;]*\\) \\{");
+        List<String> lines = Files.readAllLines(SOURCE);
+        int methods = 0;
+        for (int from = 0; from < lines.size(); from++) {
+            Matcher found = head.matcher(lines.get(from));
+            if (!found.matches()) {
+                continue;
+            }
+            methods++;
+            String end = found.group(1) + "}";
+            int to = from + 1;
+            while (to < lines.size() && !lines.get(to).equals(end)) {
+                to++;
+            }
+            must(to - from < 60, "more than sixty lines: " + lines.get(from).trim());
+        }
+        must(methods > FACE.size(), "the methods of the class are found in its lines");
     }
 }
